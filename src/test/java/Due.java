@@ -1,0 +1,74 @@
+/** What the tests share: typing a text, and counting the answers that are not the ones due. */
+final class Due {
+    private int wrong = 0;
+    private int asked = 0;
+
+    /** A new object that has read the text. */
+    static PartText reading(String text) {
+        PartText x = new PartText();
+        type(x, text);
+        x.read();
+        return x;
+    }
+
+    /** Types a text, four octets to a call; what is missing from the last four is 0. */
+    static void type(PartText x, String text) {
+        for (int i = 0; i < text.length(); i += 4) {
+            int c = 0;
+            for (int k = 0; k < 4; k++) {
+                c = c << 8 | (i + k < text.length() ? text.charAt(i + k) : 0);
+            }
+            x.sign(c);
+        }
+    }
+
+    static int typeAndRead(PartText x, String text) {
+        type(x, text);
+        return x.read();
+    }
+
+    /** The text that is there. */
+    static String text(PartText x) {
+        StringBuilder row = new StringBuilder();
+        for (int i = 0; x.at(i) >= 0; i++) {
+            row.append((char) x.at(i));
+        }
+        return row.toString();
+    }
+
+    void is(String call, long want, long got) {
+        asked++;
+        if (got != want) {
+            wrong++;
+            System.out.println(call + " answered " + got + ", due is " + want);
+        }
+    }
+
+    void is(String call, String want, String got) {
+        asked++;
+        if (!got.equals(want)) {
+            wrong++;
+            System.out.println(call + " answered <" + got + ">, due is <" + want + ">");
+        }
+    }
+
+    /** What reading the text on a new object answers. */
+    void reads(int want, String text) {
+        is("read of <" + text + ">", want, typeAndRead(new PartText(), text));
+    }
+
+    /** What check answers for the text, which must have no fault. */
+    void checks(int want, String text) {
+        PartText x = new PartText();
+        int parts = typeAndRead(x, text);
+        is("no fault in <" + text + ">", 1, parts >= 0 ? 1 : 0);
+        is("check of <" + text + ">", want, x.check());
+    }
+
+    void end() {
+        System.out.println(asked + " answers, " + wrong + " not as due");
+        if (wrong != 0 || asked == 0) {
+            System.exit(1);
+        }
+    }
+}

@@ -2,6 +2,7 @@
 final class Due {
     private int wrong = 0;
     private int asked = 0;
+    private String text = "";
 
     /** A new object that has read the text. */
     static PartText reading(String text) {
@@ -36,20 +37,28 @@ final class Due {
         return row.toString();
     }
 
+    /** The text that is told with the wrong answers from here on. */
+    void about(String told) {
+        text = told;
+    }
+
     void is(String call, long want, long got) {
         asked++;
         if (got != want) {
-            wrong++;
-            System.out.println(call + " answered " + got + ", due is " + want);
+            tell(call + " answered " + got + ", due is " + want);
         }
     }
 
     void is(String call, String want, String got) {
         asked++;
         if (!got.equals(want)) {
-            wrong++;
-            System.out.println(call + " answered <" + got + ">, due is <" + want + ">");
+            tell(call + " answered <" + got + ">, due is <" + want + ">");
         }
+    }
+
+    private void tell(String answer) {
+        wrong++;
+        System.out.println(text.isEmpty() ? answer : answer + ", the text is <" + text + ">");
     }
 
     /** What reading the text on a new object answers. */

@@ -3,6 +3,8 @@ final class Due {
     private int wrong = 0;
     private int asked = 0;
     private String text = "";
+    private String sentence = "";
+    private int askedBefore = 0;
 
     /** A new object that has read the text. */
     static PartText reading(String text) {
@@ -31,10 +33,23 @@ final class Due {
     /** The text that is there. */
     static String text(PartText x) {
         StringBuilder row = new StringBuilder();
-        for (int i = 0; x.at(i) >= 0; i++) {
-            row.append((char) x.at(i));
+        for (int octet = x.at(0); octet >= 0; octet = x.at(row.length())) {
+            row.append((char) octet);
         }
         return row.toString();
+    }
+
+    /** The document's words that the answers from here on would not fit if they didn't hold. */
+    void sentence(String quote) {
+        endSentence();
+        sentence = quote;
+        askedBefore = asked;
+    }
+
+    private void endSentence() {
+        if (!sentence.isEmpty() && asked == askedBefore) {
+            tell("no answer is asked for");
+        }
     }
 
     /** The text that is told with the wrong answers from here on. */
@@ -58,7 +73,8 @@ final class Due {
 
     private void tell(String answer) {
         wrong++;
-        System.out.println(text.isEmpty() ? answer : answer + ", the text is <" + text + ">");
+        System.out.println((sentence.isEmpty() ? "" : "<" + sentence + "> ") + answer
+            + (text.isEmpty() ? "" : ", the text is <" + text + ">"));
     }
 
     /** What reading the text on a new object answers. */
@@ -74,7 +90,22 @@ final class Due {
         is("check of <" + text + ">", want, x.check());
     }
 
+    /** What print answers for the text, and what is there then. */
+    void prints(String want, String text) {
+        PartText x = reading(text);
+        is("print of <" + text + ">", want.length(), x.print());
+        is("what is written of <" + text + ">", want, text(x));
+    }
+
+    /** How many rows of the text one that was read before it has not. */
+    void compares(int want, String now, String before) {
+        PartText x = reading(before);
+        typeAndRead(x, now);
+        is("<" + now + "> compared with <" + before + ">", want, x.compare(1));
+    }
+
     void end() {
+        endSentence();
         System.out.println(asked + " answers, " + wrong + " not as due");
         if (wrong != 0 || asked == 0) {
             System.exit(1);

@@ -3,168 +3,94 @@ public final class Promise03ReadTest {
     private static final Due DUE = new Due();
 
     public static void main(String[] args) {
-        wholeTexts();
-        tokens();
-        statements();
-        members();
-        lines();
-        rowLimit();
-        state();
+        emptyThen();
+        howManyParts();
+        minusTheFault();
+        nothingOfAFault();
         DUE.end();
     }
 
-    private static void wholeTexts() {
+    private static void emptyThen() {
+        DUE.sentence("The text is READ, and empty then");
+        PartText x = new PartText();
+        DUE.is("read", 1, Due.typeAndRead(x, "part p{}"));
+        DUE.is("the text is empty", -1, x.at(0));
+        DUE.is("read of no text", 0, x.read());
+        DUE.is("that is in hand now", -1, x.part(1, 0));
+        DUE.is("a fault", -1, Due.typeAndRead(x, "part p{"));
+        DUE.is("the text is empty after a fault", -1, x.at(0));
+        DUE.is("nothing of it is left", 1, Due.typeAndRead(x, "part p{}"));
+        x.print();
+        DUE.is("what was written is read", 1, x.read());
+        DUE.is("the text is empty after that", -1, x.at(0));
+        Due.type(x, "part q");
+        Due.type(x, "{}");
+        DUE.is("what is typed by many calls", 1, x.read());
+
+        PartText full = new PartText();
+        Due.type(full, "x".repeat(2000));
+        DUE.is("a full text", -1, full.read());
+        DUE.is("is empty then", -1, full.at(0));
+        DUE.is("and its end", -1, full.at(1999));
+    }
+
+    private static void howManyParts() {
+        DUE.sentence("how many PARTS it has");
         DUE.reads(0, "");
         DUE.reads(0, " \t\r\n ");
         DUE.reads(0, "unit a = 1 / 1 k ; type t = 1 to 2 a ; interface f { data d : t ; }");
         DUE.reads(1, "part p{}");
         DUE.reads(1, "whole w{}");
+        DUE.reads(2, "part p{}whole w{}");
         DUE.reads(3, "part p { } whole w { part a : p ; part b : w ; } part p { }");
-        DUE.reads(0, "interface f{data a:b;data c:d;}interface g{}");
-    }
-
-    private static void tokens() {
-        DUE.reads(0, "unit abcdefghijkl=1/1 k;");
-        DUE.reads(-1, "unit abcdefghijklm=1/1 k;");
-        DUE.reads(0, "unit a1b2c3=1/1 k9;");
-        DUE.reads(-1, "unit 1a=1/1 k;");
-        DUE.reads(-1, "unit A=1/1 k;");
-        DUE.reads(-1, "unit a_b=1/1 k;");
-        DUE.reads(-1, "unit a\u00e4=1/1 k;");
-        DUE.reads(0, "type t=999999 to 1 a;");
-        DUE.reads(-1, "type t=999999to 1 a;");
-        DUE.reads(-1, "type t=0000001 to 1 a;");
-        DUE.reads(0, "type t=000001 to 1 a;");
-        DUE.reads(-1, "unit a=1/1k;");
-        DUE.reads(0, "type t=-5 to-3 a;");
-        DUE.reads(-1, "type t=--5 to 3 a;");
-        DUE.reads(-1, "type t=- to 3 a;");
-        DUE.reads(-1, "type t=5- to 3 a;");
-        DUE.reads(-1, "type t=1 to 2 a;+");
-        DUE.reads(0, "unit unita=1/1 parts;");
-        String[] words = ("unit type interface data part provides requires keeps run every on reads writes"
-            + " whole connect to").split(" ");
-        for (String word : words) {
-            DUE.reads(-1, "unit " + word + "=1/1 k;");
-            DUE.reads(-1, "unit a=1/1 " + word + ";");
-            DUE.reads(0, "unit " + word + "s=1/1 k;");
+        DUE.reads(1, "whole w{part a:p;part b:p;part c:p;}");
+        for (int parts = 0; parts <= 60; parts++) {
+            DUE.reads(parts, "part p{}".repeat(parts));
         }
     }
 
-    private static void statements() {
-        DUE.reads(0, "unit a=9999/9999 k;");
-        DUE.reads(0, "unit a=009999/000001 k;");
-        DUE.reads(-1, "unit a=10000/1 k;");
-        DUE.reads(-1, "unit a=1/10000 k;");
-        DUE.reads(-1, "unit a=0/1 k;");
-        DUE.reads(-1, "unit a=1/0 k;");
-        DUE.reads(-1, "unit a=-1/1 k;");
-        DUE.reads(-1, "unit a=1/1;");
-        DUE.reads(-1, "unit a 1/1 k;");
-        DUE.reads(-1, "unit a=1/1 k");
-        DUE.reads(-1, "type t=1 2 a;");
-        DUE.reads(-1, "type t=1 to a;");
-        DUE.reads(-1, "type t=1 to 2;");
-        DUE.reads(0, "type t=0 to 0 a;");
-        DUE.reads(-1, "interface f{");
-        DUE.reads(-1, "interface{}");
-        DUE.reads(-1, "part p{};");
-        DUE.reads(-1, "}");
-        DUE.reads(-1, ";");
-        DUE.reads(-1, "data d:t;");
-        DUE.reads(-1, "connect a.b to c.d;");
-        DUE.reads(-1, "a");
-        DUE.reads(-1, "1");
-    }
+    private static void minusTheFault() {
+        DUE.sentence("or minus the FAULT (what is IN HAND stays).");
+        DUE.reads(-1, "?");
+        DUE.reads(-1, "part p{}part q{");
+        DUE.reads(-3, "part p{}\npart q{}\npart");
+        DUE.reads(-2000, "\n".repeat(1999) + "?");
+        DUE.reads(-1997, "part" + "\n".repeat(1996));
 
-    private static void members() {
-        DUE.reads(-1, "interface f{data d;}");
-        DUE.reads(-1, "interface f{data d:t}");
-        DUE.reads(-1, "interface f{keeps d:t;}");
-        DUE.reads(-1, "interface f{part d:t;}");
-        DUE.reads(1, "part p{provides a:f;requires b:f;keeps c:t;run d;}");
-        DUE.reads(-1, "part p{data a:f;}");
-        DUE.reads(-1, "part p{part a:f;}");
-        DUE.reads(-1, "part p{connect a.b to c.d;}");
-        DUE.reads(1, "part p{run a every 1;run b every 999999 reads c.d;run e on f.g writes h.i reads j.k;}");
-        DUE.reads(1, "part p{run a reads c.d;}");
-        DUE.reads(-1, "part p{run a every 0;}");
-        DUE.reads(-1, "part p{run a every -1;}");
-        DUE.reads(-1, "part p{run a every;}");
-        DUE.reads(-1, "part p{run a on b;}");
-        DUE.reads(-1, "part p{run a on b.;}");
-        DUE.reads(-1, "part p{run a every 1 on b.c;}");
-        DUE.reads(-1, "part p{run a reads b.c every 1;}");
-        DUE.reads(-1, "part p{run a reads b.c on b.c;}");
-        DUE.reads(-1, "part p{run;}");
-        DUE.reads(-1, "part p{run a reads b;}");
-        DUE.reads(1, "part p{run a on x.y" + " reads b.c writes b.c".repeat(4) + ";}");
-        DUE.reads(-1, "part p{run a on x.y" + " reads b.c writes b.c".repeat(4) + " writes b.c;}");
-        DUE.reads(1, "part p{run a" + " reads b.c".repeat(8) + ";run a" + " writes b.c".repeat(8) + ";}");
-        DUE.reads(1, "whole w{part a:b;connect a.b to c.d;}");
-        DUE.reads(-1, "whole w{connect a.b to c;}");
-        DUE.reads(-1, "whole w{connect a to c.d;}");
-        DUE.reads(-1, "whole w{connect a.b c.d;}");
-        DUE.reads(-1, "whole w{run a;}");
-        DUE.reads(-1, "whole w{part a{}}");
-        DUE.reads(-1, "part p{unit a=1/1 k;}");
-    }
-
-    private static void lines() {
-        DUE.reads(-1, "?\n\n");
-        DUE.reads(-3, "\n\n?");
-        DUE.reads(-2, "\r\r\n?");
-        DUE.reads(-1, "\r\r?");
-        DUE.reads(-2, "unit a=1/1 k\n?;");
-        DUE.reads(-2, "unit a=1/1 k\n");
-        DUE.reads(-4, "part p {\n\n\n");
-        DUE.reads(-1, "part p {");
-        DUE.reads(-3, "unit a\n=1/1\n=k;");
-        DUE.reads(-3, "unit a = 1 / 1 k ;\n\nunit b = 0\n/ 1 k ;");
-        DUE.reads(-2, "type t = -\nx to 2 a;");
-        DUE.reads(-2, "type t = -\n");
-        DUE.reads(-1, "; \n?");
-        DUE.reads(-3, "part p { run a\nreads b.c reads b.c reads b.c reads b.c reads b.c reads b.c reads b.c"
-            + " reads b.c\nreads b.c ; }");
-        DUE.reads(-2, "unit\nabcdefghijklm\n=");
-        DUE.reads(-2, "type t =\n1234567\nto");
-    }
-
-    private static void rowLimit() {
-        String unit = "unit a=1/1 k;";
-        DUE.reads(0, unit.repeat(120));
-        DUE.reads(-1, unit.repeat(121));
-        DUE.reads(-2, unit.repeat(120) + "\nunit\n");
-        DUE.reads(-3, unit.repeat(120) + "\n\n?");
-        DUE.reads(0, unit.repeat(120) + "\n\n");
-        DUE.reads(60, "part p{}".repeat(60));
-        DUE.reads(-2, "part p{}".repeat(60) + "\nwhole w{}");
-        DUE.reads(-2, unit.repeat(119) + "part p{\n}");
-        DUE.reads(1, unit.repeat(118) + "part p{\n}");
-        DUE.reads(-2, unit.repeat(118) + "part p{run a;\n}");
-        DUE.reads(-2, unit.repeat(119) + "part p{\nrun a;}");
-        DUE.reads(-2, unit.repeat(119) + "part p{\n");
-    }
-
-    private static void state() {
         PartText x = new PartText();
         DUE.is("a fault first", -1, Due.typeAndRead(x, "type t = -"));
         DUE.is("nothing is in hand", -3, x.check());
-        DUE.is("the text is empty after a fault", -1, x.at(0));
+        DUE.is("nothing to write", -3, x.print());
         DUE.is("no edition", -1, x.compare(1));
-        DUE.is("a text after a fault", 1, Due.typeAndRead(x, "type t = 5 to 7 a; part p { }"));
-        DUE.is("the text is empty", -1, x.at(0));
-        DUE.is("the minus before the fault is gone", 102, x.check());
+        DUE.is("a text", 1, Due.typeAndRead(x, "type t=5 to 7 a;part p{run r every 9;}"));
+        DUE.is("a fault", -1, Due.typeAndRead(x, "part q{} part r{} x"));
+        DUE.is("no more parts", -1, x.part(2, 0));
+        DUE.is("its names", 3, x.part(1, 0));
+        DUE.is("its runs", 9, x.runnable(1, 1, 1));
+        DUE.is("its rules", 102, x.check());
+        DUE.is("its edition", 0, x.compare(1));
+        DUE.is("no other edition", -1, x.compare(2));
         x.print();
-        DUE.is("it is 5", "type t = 5 to 7 a ;\npart p {\n}\n", Due.text(x));
-        x.read();
-        DUE.is("another fault", -1, Due.typeAndRead(x, "part q { } part r { } x"));
-        DUE.is("what is in hand stays", -1, x.part(2, 0));
-        DUE.is("and its rules", 102, x.check());
-        DUE.is("and the editions", 0, x.compare(2));
-        DUE.is("a fault is no edition", -1, x.compare(3));
-        DUE.is("an empty text", 0, x.read());
-        DUE.is("is an edition", 0, x.compare(3));
-        DUE.is("without rows", 0, x.check());
+        DUE.is("it is written", "type t = 5 to 7 a ;\npart p {\nrun r every 9 ;\n}\n", Due.text(x));
+    }
+
+    /** What a fault has left half done must not show in the next text. */
+    private static void nothingOfAFault() {
+        String[] faults = {"type t = -", "type t=1 to -", "part p{", "part p{run a every", "part p{run a" + " reads b.c".repeat(8)
+            + " reads", "whole w{part", "interface f{data d:", "unit a=1/", "unit abcdefghijklm", "\n\n\n?"};
+        String text = "type t=5 to 7 a;unit a=1/1 k;part p{run r" + " reads b.c".repeat(8) + ";}";
+        for (String fault : faults) {
+            PartText x = new PartText();
+            Due.typeAndRead(x, fault);
+            DUE.is("after <" + fault + ">", 1, Due.typeAndRead(x, text));
+            DUE.is("its names after <" + fault + ">", 4, x.part(1, 0));
+            DUE.is("its rows after <" + fault + ">", 402, x.check());
+            DUE.is("its edition after <" + fault + ">", 0, x.compare(1));
+            Due.typeAndRead(x, fault);
+            DUE.is("lines after <" + fault + ">", -1, Due.typeAndRead(x, "?"));
+            x.print();
+            DUE.is("it is written", "type t = 5 to 7 a ;\nunit a = 1 / 1 k ;\npart p {\nrun r" + " reads b . c".repeat(8)
+                + " ;\n}\n", Due.text(x));
+        }
     }
 }

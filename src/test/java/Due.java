@@ -30,6 +30,15 @@ final class Due {
         return x.read();
     }
 
+    /** Rows of units with names of their own. */
+    static String units(int count) {
+        StringBuilder rows = new StringBuilder();
+        for (int i = 0; i < count; i++) {
+            rows.append("unit u").append(i).append("=1/1 k;");
+        }
+        return rows.toString();
+    }
+
     /** The text that is there. */
     static String text(PartText x) {
         StringBuilder row = new StringBuilder();

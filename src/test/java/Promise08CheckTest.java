@@ -20,7 +20,7 @@ public final class Promise08CheckTest {
         DUE.checks(210, "whole w{part a:w;}whole w{}");
         DUE.checks(401, "whole w{part a:p;}whole w{part a:w;}part p{}");
         for (int before : new int[] {0, 1, 8, 9, 10, 98, 99, 100, 118, 119}) {
-            DUE.checks((before + 1) * 100 + 2, units(before) + "type t=1 to 2 nix;");
+            DUE.checks((before + 1) * 100 + 2, Due.units(before) + "type t=1 to 2 nix;");
         }
         // A row that breaks a greater rule stands first.
         DUE.checks(302, "whole w{part a:p;part b:nix;}part p{}part p{}");
@@ -31,14 +31,6 @@ public final class Promise08CheckTest {
         DUE.is("check of the next text", 0, x.check());
         Due.typeAndRead(x, "part p{run a;");
         DUE.is("check after a fault", 0, x.check());
-    }
-
-    private static String units(int count) {
-        StringBuilder rows = new StringBuilder();
-        for (int i = 0; i < count; i++) {
-            rows.append("unit u").append(i).append("=1/1 k;");
-        }
-        return rows.toString();
     }
 
     /** Rows that break two rules or more. */
@@ -72,7 +64,7 @@ public final class Promise08CheckTest {
         DUE.checks(0, BASE
             + "part p{provides o:f;requires i:f;keeps k:t;run a on i.d reads i.d writes o.d;run b every 5;}"
             + "whole w{part a:p;part b:p;connect a.o to b.i;connect b.o to a.i;}");
-        DUE.checks(0, units(120));
+        DUE.checks(0, Due.units(120));
     }
 
     private static void nothingInHand() {

@@ -96,14 +96,14 @@ public final class Promise12CompareTest {
         DUE.is("nothing in hand", -1, x.compare(1));
         for (int i = 1; i <= 8; i++) {
             DUE.is("edition " + i + " is not there yet", -1, x.compare(i));
-            Due.typeAndRead(x, units(i));
+            Due.typeAndRead(x, Due.units(i));
             DUE.is("edition " + i, 0, x.compare(i));
         }
         for (int other : new int[] {0, -1, 9, 10, 11, Integer.MIN_VALUE, Integer.MAX_VALUE}) {
             DUE.is("compare(" + other + ")", -1, x.compare(other));
         }
         for (int more = 9; more <= 12; more++) {
-            Due.typeAndRead(x, units(more));
+            Due.typeAndRead(x, Due.units(more));
             for (int i = 1; i <= 8; i++) {
                 DUE.is(more + " rows with edition " + i, more - i, x.compare(i));
             }
@@ -112,13 +112,5 @@ public final class Promise12CompareTest {
             DUE.is("a fault", -1, Due.typeAndRead(x, "unit x=1/1 k;?"));
             DUE.is("what is in hand stays", more - 1, x.compare(1));
         }
-    }
-
-    private static String units(int count) {
-        StringBuilder rows = new StringBuilder();
-        for (int i = 0; i < count; i++) {
-            rows.append("unit u").append(i).append("=1/1 k;");
-        }
-        return rows.toString();
     }
 }

@@ -3,81 +3,124 @@ import java.util.Collections;
 import java.util.List;
 import java.util.Random;
 
-/** Texts of all kinds, the same ones each time, held against PlainModel call by call. */
+/**
+ * Texts of all kinds, the same ones each time, held against PlainModel call by call; no object is asked beyond its
+ * 512th call, for what it answers then is free.
+ */
 public final class RandomTextsTest {
-    private static final int OBJECTS = 600;
-    private static final int TEXTS = 11;
+    private static final int OBJECTS = 3000;
+    private static final int CALLS = 512;
+    private static final int TEXT_LIMIT = 2000;
+    private static final int EDITIONS = 10;
 
     private static final Due DUE = new Due();
     private static final Random RANDOM = new Random(20261115);
     private static final int[] BROKEN = new int[11];
+    private static int texts = 0;
     private static int faultless = 0;
+    private static int beyondKept = 0;
 
     /** How seldom a name is one of another role, for the text in hand. */
     private static int slips = 30;
 
+    private PartText x = new PartText();
+    private PlainModel y = new PlainModel();
+    private int calls = 0;
+    private int editions = 0;
+
     public static void main(String[] args) {
         for (int i = 0; i < OBJECTS; i++) {
-            tryObject();
+            new RandomTextsTest().tryTexts(i % 2 == 0);
         }
         // So that the texts are known to reach what they are made for.
-        DUE.is("texts without a fault are enough", 1, faultless > OBJECTS * TEXTS / 2 ? 1 : 0);
+        DUE.is("texts are enough", 1, texts > OBJECTS * 2 ? 1 : 0);
+        DUE.is("texts without a fault are enough", 1, faultless > texts / 2 ? 1 : 0);
+        DUE.is("objects with more editions than are kept are enough", 1, beyondKept > 100 ? 1 : 0);
         for (int rule = 0; rule < BROKEN.length; rule++) {
             DUE.is("rule " + rule + " is told often enough", 1, BROKEN[rule] > 10 ? 1 : 0);
         }
         DUE.end();
     }
 
-    private static void tryObject() {
-        PartText x = new PartText();
-        PlainModel y = new PlainModel();
-        for (int i = 0; i < TEXTS; i++) {
-            String text = below(3) == 0 ? spoiled(text()) : text();
+    /** Short texts leave calls for more editions, long ones for more of what rules look at. */
+    private void tryTexts(boolean small) {
+        String text = anyText(small);
+        while (calls + typingCalls(text) + EDITIONS + 2 <= CALLS) {
+            texts++;
             DUE.about(text);
-            type(x, y, text);
-            tryRead(x, y);
-            if (below(3) == 0) {
-                DUE.is("print", y.print(), x.print());
-                for (int k = 0; k < 5; k++) {
-                    int place = below(k == 0 ? 2002 : 60) - 1;
-                    DUE.is("at(" + place + ")", y.at(place), x.at(place));
-                }
-                tryRead(x, y);
+            type(text);
+            tryRead(small);
+            if (below(3) == 0 && calls + EDITIONS + 8 <= CALLS) {
+                tryPrint();
+                tryRead(small);
             }
+            text = anyText(small);
         }
+        beyondKept += editions > 8 ? 1 : 0;
     }
 
-    private static void type(PartText x, PlainModel y, String text) {
-        for (int i = 0; i < text.length(); i++) {
-            int c = text.charAt(i) << 8 * below(4);
+    private static String anyText(boolean small) {
+        String whole = small ? few() : text();
+        String text = below(3) == 0 ? spoiled(whole) : whole;
+        return text.substring(0, Math.min(text.length(), TEXT_LIMIT - EDITIONS * 4));
+    }
+
+    private static int typingCalls(String text) {
+        return text.length() / 4 + 1;
+    }
+
+    /** Four octets to a call, with nulls before the first ones. */
+    private void type(String text) {
+        int nulls = 4 - text.length() % 4;
+        for (int i = -nulls; i < text.length(); i += 4) {
+            int c = 0;
+            for (int k = i; k < i + 4; k++) {
+                c = c << 8 | (k < 0 ? 0 : text.charAt(k));
+            }
             x.sign(c);
             y.sign(c);
+            calls++;
         }
     }
 
-    private static void tryRead(PartText x, PlainModel y) {
+    private void is(String call, int want, int got) {
+        calls++;
+        DUE.is(call, want, got);
+    }
+
+    private void tryPrint() {
+        is("print", y.print(), x.print());
+        for (int k = 0; k < 5; k++) {
+            int place = below(k == 0 ? 2002 : 60) - 1;
+            is("at(" + place + ")", y.at(place), x.at(place));
+        }
+    }
+
+    private void tryRead(boolean small) {
         int parts = x.read();
-        DUE.is("read", y.read(), parts);
+        is("read", y.read(), parts);
         int broken = x.check();
-        DUE.is("check", y.check(), broken);
+        is("check", y.check(), broken);
         if (parts >= 0) {
             faultless++;
+            editions++;
             BROKEN[broken % 100]++;
         }
-        for (int k = 0; k < 12; k++) {
-            int a = below(7);
-            int b = below(5);
-            int c = below(8) - 1;
-            String call = "(" + a + ", " + b + ", " + c + ")";
-            DUE.is("part" + call, y.part(a, c), x.part(a, c));
-            DUE.is("port" + call, y.port(a, b, c), x.port(a, b, c));
-            DUE.is("runnable" + call, y.runnable(a, b, c), x.runnable(a, b, c));
-            DUE.is("connector" + call, y.connector(a, c), x.connector(a, c));
-            DUE.is("unit" + call, y.unit(a, b, c), x.unit(a, b, c));
+        for (int k = small ? 1 : 12; k > 0 && calls + EDITIONS + 5 <= CALLS; k--) {
+            tryQuestions(below(7), below(5), below(8) - 1);
         }
-        for (int other = 0; other <= 10; other++) {
-            DUE.is("compare(" + other + ")", y.compare(other), x.compare(other));
+        for (int other = small ? below(EDITIONS) : 0; other <= EDITIONS && calls < CALLS; other++) {
+            is("compare(" + other + ")", y.compare(other), x.compare(other));
         }
+    }
+
+    private void tryQuestions(int a, int b, int c) {
+        String call = "(" + a + ", " + b + ", " + c + ")";
+        is("part" + call, y.part(a, c), x.part(a, c));
+        is("port" + call, y.port(a, b, c), x.port(a, b, c));
+        is("runnable" + call, y.runnable(a, b, c), x.runnable(a, b, c));
+        is("connector" + call, y.connector(a, c), x.connector(a, c));
+        is("unit" + call, y.unit(a, b, c), x.unit(a, b, c));
     }
 
     private static int below(int n) {
@@ -120,6 +163,18 @@ public final class RandomTextsTest {
             Collections.shuffle(statements, RANDOM);
         }
         return spaced(String.join("", statements));
+    }
+
+    /** Some of a text's statements, from a few names, so that editions have rows of one another. */
+    private static String few() {
+        slips = any(List.of(4, 30, 10000));
+        StringBuilder statements = new StringBuilder();
+        for (int i = below(4); i > 0; i--) {
+            statements.append(any(List.of("unit m=1/1 way;", "type " + name("t") + "=" + below(3) + " to 2 " + name("m") + ";",
+                "interface f{" + members("data", "d e", "t", below(3)) + "}", "part p{" + members("keeps", "a b", "t", below(3))
+                + "}", "whole w{" + members("part", "a b", "p w", below(3)) + "}")));
+        }
+        return spaced(statements.toString());
     }
 
     /** Members with names in their order, so that few are given twice. */

@@ -243,8 +243,8 @@ public final class Terms2GrammarTest {
         DUE.reads(-1, "part p{" + "run a;".repeat(119) + "}");
         DUE.reads(0, "interface f{" + "data a:b;".repeat(118) + "}");
         DUE.reads(1, "whole w{" + "part a:b;".repeat(118) + "}");
-        DUE.checks(12002, units(119) + "type t=1 to 2 nix;");
-        DUE.checks(11902, units(118) + "type t=1 to 2 nix;" + unit);
+        DUE.checks(12002, Due.units(119) + "type t=1 to 2 nix;");
+        DUE.checks(11902, Due.units(118) + "type t=1 to 2 nix;" + unit);
 
         DUE.sentence("(also of one that begins a row too many)");
         for (String row : "unit type interface part whole".split(" ")) {
@@ -257,14 +257,6 @@ public final class Terms2GrammarTest {
         DUE.reads(1, unit.repeat(118) + "part p{\n}\n");
         DUE.reads(-3, unit.repeat(119) + "part p\n\n");
         DUE.reads(0, unit.repeat(120) + "\n\n");
-    }
-
-    private static String units(int count) {
-        StringBuilder rows = new StringBuilder();
-        for (int i = 0; i < count; i++) {
-            rows.append("unit u").append(i).append("=1/1 k;");
-        }
-        return rows.toString();
     }
 
     private static void firstFault() {

@@ -13,20 +13,12 @@ public final class Terms5EditionsTest {
         DUE.end();
     }
 
-    private static String units(int count) {
-        StringBuilder rows = new StringBuilder();
-        for (int i = 0; i < count; i++) {
-            rows.append("unit u").append(i).append("=1/1 k;");
-        }
-        return rows.toString();
-    }
-
     private static void kept() {
         DUE.sentence("EDITIONS are the texts that were READ, numbered from 1 on, the first 8 are kept");
         PartText x = new PartText();
         DUE.is("no edition", -1, x.compare(1));
         for (int i = 1; i <= 10; i++) {
-            Due.typeAndRead(x, units(i));
+            Due.typeAndRead(x, Due.units(i));
             DUE.is("compare(0)", -1, x.compare(0));
             for (int other = 1; other <= 11; other++) {
                 DUE.is(i + " rows, compare(" + other + ")", other > i || other > 8 ? -1 : i - other, x.compare(other));
@@ -89,7 +81,7 @@ public final class Terms5EditionsTest {
         }
         for (int step = 0; step < steps; step++) {
             if (step % 3 == 0) {
-                Due.type(x, step % 2 == 0 ? TEXT : units(step));
+                Due.type(x, step % 2 == 0 ? TEXT : Due.units(step));
             } else if (step % 3 == 1) {
                 x.read();
             } else {

@@ -23,8 +23,8 @@ public final class RandomTextsTest {
     /** How seldom a name is one of another role, for the text in hand. */
     private static int slips = 30;
 
-    private PartText x = new PartText();
-    private PlainModel y = new PlainModel();
+    private final PartText x = new PartText();
+    private final PlainModel y = new PlainModel();
     private int calls = 0;
     private int editions = 0;
 
@@ -170,9 +170,11 @@ public final class RandomTextsTest {
         slips = any(List.of(4, 30, 10000));
         StringBuilder statements = new StringBuilder();
         for (int i = below(4); i > 0; i--) {
-            statements.append(any(List.of("unit m=1/1 way;", "type " + name("t") + "=" + below(3) + " to 2 " + name("m") + ";",
-                "interface f{" + members("data", "d e", "t", below(3)) + "}", "part p{" + members("keeps", "a b", "t", below(3))
-                + "}", "whole w{" + members("part", "a b", "p w", below(3)) + "}")));
+            statements.append(any(List.of("unit m=1/1 way;",
+                "type " + name("t") + "=" + below(3) + " to 2 " + name("m") + ";",
+                "interface f{" + members("data", "d e", "t", below(3)) + "}",
+                "part p{" + members("keeps", "a b", "t", below(3)) + "}",
+                "whole w{" + members("part", "a b", "p w", below(3)) + "}")));
         }
         return spaced(statements.toString());
     }
